@@ -360,11 +360,7 @@ public final class ClassSheets {
         if (n < 1 || n > MOST_REVIEW) {
             return BAD;
         }
-        int total = missesAt(seat);
-        if (total == 0) {
-            return STATE;
-        }
-        return reviewPlaces(missesFrom(seat), total, n, kind);
+        return reviewPlaces(seat, n, kind);
     }
 
     public int all(int kind) {
@@ -426,9 +422,11 @@ public final class ClassSheets {
      * The rests add up to the total times the places that are over, and each is below the total: so
      * there are more kinds with a rest than places over, and a kind without one never gets any.
      */
-    private int reviewPlaces(int from, int total, int n, int kind) {
-        if (total < 1) {
-            return 0;
+    private int reviewPlaces(int seat, int n, int kind) {
+        int from = missesFrom(seat);
+        int total = missesAt(seat);
+        if (total == 0) {
+            return STATE;
         }
         int rest = n * misses[from + kind] % total;
         int over = n;

@@ -210,6 +210,26 @@ public final class ClassroomTest {
         }
         x.clear();
         Due.is("the plan's clearing changes nothing", 5, x.missed(12, -9));
+        everySeatForItself();
+    }
+
+    private static void everySeatForItself() {
+        ClassSheets x = withKinds(8);
+        x.seats(8, 8);
+        for (int seat = 0; seat < 64; seat++) {
+            x.mark(seat / 8 * 10 + seat % 8, 7, 7777);
+            x.mark(seat / 8 * 10 + seat % 8, seat / 8, 7777);
+        }
+        for (int seat = 0; seat < 64; seat++) {
+            int child = seat / 8 * 10 + seat % 8;
+            for (int k = 0; k < 8; k++) {
+                int due = (k == 7 ? 1 : 0) + (k == seat / 8 ? 1 : 0);
+                Due.is("missed(" + child + ", " + k + ")", due, x.missed(child, k));
+            }
+            Due.is("missed(" + child + ", NONE)", 2, x.missed(child, -9));
+        }
+        Due.is("review of the last child", 3, x.review(77, 3, 7));
+        Due.is("review of the last child", 0, x.review(77, 3, 0));
     }
 
     private static void shares(int n, int[] times, int... due) {

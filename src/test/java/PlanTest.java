@@ -68,6 +68,13 @@ public final class PlanTest {
         x.plan(0, 2);
         Due.is("places of a kind are counted anew: m", 2, x.sheet(1, 0));
         Due.is("places of a kind are counted anew: j", 1, x.sheet(0, 1));
+        ClassSheets full = withKinds(8);
+        for (int k = 0; k < 8; k++) {
+            full.plan(k, 5);
+        }
+        Due.is("clear() of eight kinds", 40, full.clear());
+        full.plan(7, 2);
+        Due.is("the last kind is counted anew", 2, full.sheet(1, 0));
     }
 
     private static void placed() {

@@ -8,6 +8,8 @@ public final class SheetsTest {
         answer();
         code();
         shared();
+        eightKinds();
+        oneVariant();
         apart();
         apartByLooking();
         emptyPlan();
@@ -21,11 +23,15 @@ public final class SheetsTest {
         ClassSheets x = new ClassSheets();
         x.kind(0);
         x.kind(2);
+        mixedPlaces(x);
+        return x;
+    }
+
+    private static void mixedPlaces(ClassSheets x) {
         x.plan(0, 2);
         x.plan(1, 1);
         x.plan(0, 1);
         x.plan(1, 1);
-        return x;
     }
 
     private static void sheet() {
@@ -110,6 +116,33 @@ public final class SheetsTest {
         y.plan(0, 1);
         y.plan(1, 1);
         Due.is("another kind's variant 0 is not what is shared", 1, y.shared(0, 1));
+        y.kind(0);
+        y.range(2, 2, 1000, 2000);
+        Due.is("a kind without variants that is not planned", 1, y.shared(0, 1));
+    }
+
+    private static void eightKinds() {
+        ClassSheets x = new ClassSheets();
+        for (int k = 0; k < 8; k++) {
+            x.kind(0);
+            x.range(k, 0, 0, 0);
+            x.plan(k, 5);
+        }
+        Due.is("all of eight kinds", 40, x.shared(3, 5));
+        Due.is("none of eight kinds", 0, x.shared(3, 4));
+        Due.is("apart of eight kinds", 1, x.apart(0));
+        x.range(7, 1, 0, 8);
+        Due.is("the last kind has too few", -9, x.apart(0));
+    }
+
+    private static void oneVariant() {
+        ClassSheets x = new ClassSheets();
+        x.kind(2);
+        x.range(0, 0, 7, 7);
+        x.range(0, 1, 8, 8);
+        x.plan(0, 2);
+        Due.is("the only variant", 0, x.sheet(9999, 1));
+        Due.is("the only answer", 56, x.answer(9999, 1));
     }
 
     private static void apart() {
@@ -201,7 +234,17 @@ public final class SheetsTest {
         }
         Due.is("UNKNOWN comes ahead of STATE: sheet(0, 6)", -1, x.sheet(0, 6));
         Due.is("a page needs no sheet", 5, x.page(5, true));
+        x.range(0, 2, 1000, 2000);
         x.range(2, 2, 0, 5);
+        Due.is("now the first kind has none", -3, x.sheet(0, 5));
+        x.clear();
+        x.plan(0, 1);
+        x.plan(1, 1);
+        Due.is("the first place's kind alone has none", -3, x.sheet(0, 1));
+        x.range(0, 2, 0, 5);
+        x.clear();
+        mixedPlaces(x);
+        x.plan(2, 1);
         Due.is("variants again, sheets again", 0, x.sheet(0, 5));
     }
 }
