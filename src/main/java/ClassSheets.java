@@ -141,9 +141,10 @@ public final class ClassSheets {
         if (n > MOST_PLACES - placeCount) {
             return FULL;
         }
-        for (int end = placeCount + n; placeCount < end; placeCount++) {
+        for (int i = 0; i < n; i++) {
             plannedKinds[placeCount] = kind;
             turns[placeCount] = kinds[kind].addPlace();
+            placeCount++;
         }
         return placeCount;
     }
