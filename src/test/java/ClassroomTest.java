@@ -222,7 +222,7 @@ public final class ClassroomTest {
         }
         for (int seat = 0; seat < 64; seat++) {
             int child = seat / 8 * 10 + seat % 8;
-            for (int k = 0; k < 8; k++) {
+            for (int k : new int[] {seat / 8, (seat + 1) % 8, 7}) {
                 int due = (k == 7 ? 1 : 0) + (k == seat / 8 ? 1 : 0);
                 Due.is("missed(" + child + ", " + k + ")", due, x.missed(child, k));
             }
@@ -257,9 +257,9 @@ public final class ClassroomTest {
     }
 
     private static void reviewAddsUp() {
-        ClassSheets x = withKinds(8);
-        miss(x, 0, 3, 0, 7, 1, 1, 4, 0, 2);
         for (int n = 1; n <= 60; n++) {
+            ClassSheets x = withKinds(8);
+            miss(x, 0, 3, 0, 7, 1, 1, 4, 0, 2);
             int sum = 0;
             for (int k = 0; k < 8; k++) {
                 sum += x.review(0, n, k);

@@ -1,9 +1,8 @@
-/**
- * Promises 1 to 9: a new object; kinds, their variants and slips. Where all variants are looked at,
- * an object is used for more than 512 calls: the document leaves that free, the class counts none.
- */
+/** Promises 1 to 9: a new object; kinds, their variants and slips. */
 public final class KindsTest {
     private static final int MIN = Integer.MIN_VALUE, MAX = Integer.MAX_VALUE;
+    /** So many variants are looked at on one object, which is used for 512 calls at most. */
+    private static final int PART = 25;
 
     public static void main(String[] args) {
         newObject();
@@ -144,26 +143,35 @@ public final class KindsTest {
     }
 
     private static void lawOfSlips() {
-        ClassSheets x = new ClassSheets();
         for (int op = 0; op < 4; op++) {
-            x.kind(op);
-            x.range(op, 0, 0, 99);
-            int all = x.range(op, 1, 0, 99);
-            int kept = 0;
-            for (int i = 0; i < all; i++) {
-                kept += anySlipIsRight(x, op, i) ? 0 : 1;
-            }
-            x.rule(op, 0, 3);
-            Due.is("variants of " + op + " that no slip tells", kept, x.variants(op));
-            for (int i = 0; i < kept; i++) {
-                Due.holds("no slip is right at " + i + " of " + op, !anySlipIsRight(x, op, i));
+            for (int a = 0; a <= 99; a++) {
+                for (int b = 0; b <= 99; b += PART) {
+                    lawOfSlips(op, a, b);
+                }
             }
         }
     }
 
-    private static boolean anySlipIsRight(ClassSheets x, int kind, int i) {
+    private static void lawOfSlips(int operation, int a, int b) {
+        ClassSheets x = new ClassSheets();
+        x.kind(operation);
+        x.range(0, 0, a, a);
+        int all = x.range(0, 1, b, b + PART - 1);
+        int kept = 0;
+        for (int i = 0; i < all; i++) {
+            kept += anySlipIsRight(x, i) ? 0 : 1;
+        }
+        x.rule(0, 0, 3);
+        Due.is("variants of " + operation + " at " + a + " that no slip tells", kept, x.variants(0));
+        for (int i = 0; i < kept; i++) {
+            Due.holds("no slip is right at " + i + " of " + operation + " at " + a, !anySlipIsRight(x, i));
+        }
+    }
+
+    private static boolean anySlipIsRight(ClassSheets x, int i) {
+        int right = x.variant(0, i, 2);
         for (int slip = 1; slip <= 5; slip++) {
-            if (x.slip(kind, i, slip) == x.variant(kind, i, 2)) {
+            if (x.slip(0, i, slip) == right) {
                 return true;
             }
         }
@@ -212,9 +220,9 @@ public final class KindsTest {
         for (int op = 0; op < 4; op++) {
             x.kind(op);
             x.range(op, 0, 5, 99);
-            x.range(op, 1, 0, 33);
-            for (int i = 0; i < x.variants(op); i++) {
-                Due.is("find of variant " + i + " of " + op, i, x.find(op, x.variant(op, i, 0), x.variant(op, i, 1)));
+            int all = x.range(op, 1, 0, 33);
+            for (int from = 0; from < all; from += PART) {
+                findPart(op, from, Math.min(all, from + PART));
             }
         }
         Due.is("find(4, 5, 5)", -1, x.find(4, 5, 5));
@@ -229,6 +237,16 @@ public final class KindsTest {
         Due.is("2 does not go into 5", -9, x.find(3, 5, 2));
         x.rule(0, 0, 1);
         Due.is("5 plus 5 carries", -9, x.find(0, 5, 5));
+    }
+
+    private static void findPart(int operation, int from, int end) {
+        ClassSheets x = new ClassSheets();
+        x.kind(operation);
+        x.range(0, 0, 5, 99);
+        x.range(0, 1, 0, 33);
+        for (int i = from; i < end; i++) {
+            Due.is("find of variant " + i + " of " + operation, i, x.find(0, x.variant(0, i, 0), x.variant(0, i, 1)));
+        }
     }
 
     /** A kind of just one variant, whose number is 0. */

@@ -1,60 +1,36 @@
-import java.lang.reflect.InvocationTargetException;
 import java.lang.reflect.Method;
 import java.util.ArrayList;
 import java.util.Arrays;
-import java.util.Comparator;
 import java.util.List;
 
 /** Runs of 512 calls on new objects, each answer held against PlainModel's. */
 public final class RunsTest {
     private static final int RUNS = 300;
-    private static final int CALLS = 512;
-    /** Callers of the state-changing kind come this much oftener at the start of a run. */
+    /** Calls of the state-changing kind come this much oftener at the start of a run. */
     private static final int OPENING = 40;
     private static final String[] OPENERS = {"kind", "kind", "range", "rule", "plan", "seats", "base", "lines"};
 
     private static long seed = 20261116;
 
     public static void main(String[] args) throws ReflectiveOperationException {
-        Method[] calls = ClassSheets.class.getDeclaredMethods();
-        calls = Arrays.stream(calls).filter(m -> java.lang.reflect.Modifier.isPublic(m.getModifiers()))
-            .sorted(Comparator.comparing(Method::getName)).toArray(Method[]::new);
         for (int run = 0; run < RUNS; run++) {
-            oneRun(run, calls);
+            oneRun(run, Both.calls());
         }
         Due.end();
     }
 
     private static void oneRun(int run, Method[] calls) throws ReflectiveOperationException {
-        ClassSheets sheets = new ClassSheets();
-        PlainModel model = new PlainModel();
+        Both both = new Both("run " + run);
         boolean small = run % 2 == 0;
-        for (int n = 0; n < CALLS; n++) {
+        while (both.callsMade() < Both.MOST_CALLS) {
             Method call = calls[pick(0, calls.length - 1)];
-            if (n < OPENING || pick(0, 3) == 0 && call.getName().equals("clear")) {
-                call = named(calls, OPENERS[pick(0, OPENERS.length - 1)]);
+            if (both.callsMade() < OPENING || pick(0, 3) == 0 && call.getName().equals("clear")) {
+                call = Both.named(OPENERS[pick(0, OPENERS.length - 1)]);
             } else if (pick(0, 2) == 0) {
-                call = named(calls, "mark");
+                call = Both.named("mark");
             }
-            Object[] with = arguments(call, model, small);
-            Method due = PlainModel.class.getMethod(call.getName(), call.getParameterTypes());
-            String told = "run " + run + ", call " + n + ": " + call.getName() + Arrays.toString(with);
-            int want = (Integer) due.invoke(model, with);
-            try {
-                Due.is(told, want, (Integer) call.invoke(sheets, with));
-            } catch (InvocationTargetException thrown) {
-                Due.holds(told + " does not throw " + thrown.getCause(), false);
-            }
+            both.make(call, arguments(call, both.model, small));
         }
-    }
-
-    private static Method named(Method[] calls, String name) {
-        for (Method call : calls) {
-            if (call.getName().equals(name)) {
-                return call;
-            }
-        }
-        throw new IllegalStateException(name);
     }
 
     private static Object[] arguments(Method call, PlainModel model, boolean small) {
