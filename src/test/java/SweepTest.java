@@ -1,7 +1,7 @@
 import java.lang.reflect.Method;
 
 /**
- * Every call with every edge of the document, one beyond it and the ends of all ints, for each of
+ * Every call with edges of the document, what lies one beyond them and the ends of all ints, for each of
  * its parameters, in a new object, in one of middle size and in a full one: none may throw, and
  * each answer is PlainModel's.
  */
