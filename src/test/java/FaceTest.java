@@ -8,6 +8,7 @@ import java.util.ArrayList;
 import java.util.Arrays;
 import java.util.Collections;
 import java.util.List;
+import java.util.regex.Pattern;
 
 /** The public face is the document's and no more; the source keeps out of what LANGUAGE.md bars. */
 public final class FaceTest {
@@ -22,6 +23,10 @@ public final class FaceTest {
     private static final String[] BARRED = {
         "\\bthrow\\b", "\\bthrows\\b", "\\btry\\b", "\\bcatch\\b", "\\bsynchronized\\b", "\\bassert\\b",
         "\\bimport\\b", "\\bpackage\\b", "->", "::", "\\bstatic\\s*\\{", "\\bprotected\\b", "Exact\\b"};
+
+    /** A call of a class that is not of the file: without an import it is one of java.lang. */
+    private static final Pattern LIBRARY = Pattern.compile("(?<![\\w.])(?!Kind\\b)[A-Z]\\w*\\.\\w+\\(");
+    private static final String LIBRARY_USED = "Math\\.(min|abs|floorMod)\\(";
 
     public static void main(String[] args) throws IOException {
         members();
@@ -46,6 +51,11 @@ public final class FaceTest {
         }
         Collections.sort(seen);
         Due.holds("the methods are the document's, but are " + seen, seen.equals(Arrays.asList(METHODS)));
+        for (Class<?> inside : ClassSheets.class.getDeclaredClasses()) {
+            for (Method method : inside.getDeclaredMethods()) {
+                hidden.add(method.getName());
+            }
+        }
         for (String method : METHODS) {
             String name = method.substring(0, method.indexOf('('));
             Due.holds("no private method is called " + name, !hidden.contains(name));
@@ -98,7 +108,9 @@ public final class FaceTest {
             .replaceAll("(?s)/\\*.*?\\*/", " ").replaceAll("//[^\n]*", " ");
         for (String barred : BARRED) {
             Due.holds("no " + barred + " in the source",
-                !java.util.regex.Pattern.compile(barred).matcher(text).find());
+                !Pattern.compile(barred).matcher(text).find());
         }
+        LIBRARY.matcher(text).results().forEach(call ->
+            Due.holds(call.group() + " is of the library that LANGUAGE.md leaves", call.group().matches(LIBRARY_USED)));
     }
 }
